@@ -48,6 +48,14 @@ public final class DoubtsTest {
         x.put(0, 3, 0, 2);
         x.put(0, 2, 0, 3);
         CHECK.due("none, three and three", x.answers(1000), 2);
+        x.table(1);
+        x.mean(2, 0, 0, 0, 0);
+        x.mean(2, 0, 100, 0, 0);
+        Desks.say(x, 2);
+        for (int rows = 0; rows < 8; rows++) {
+            CHECK.due("six ROWS and " + rows, x.answers(0), rows == 6 ? 1 : 2);
+            x.row(1);
+        }
     }
 
     private static void asking() {
@@ -72,6 +80,17 @@ public final class DoubtsTest {
         x.mean(1, 3, 0, 3, 0);
         // place 1: NOISE {1, 2, 3}; place 2: 1: {1, 0}, 2: {2, 0}, 3: {3, 3}
         CHECK.due("a later place parts better", x.back(0), 2);
+        x.forget(1);
+        x.forget(2);
+        x.mean(1, 3, 0, 1, 0);
+        x.mean(1, 3, 0, 2, 0);
+        x.mean(1, 5, 0, 0, 0);
+        x.mean(2, 3, 0, 1, 0);
+        x.mean(2, 5, 0, 0, 0);
+        // place 1: 1: {1, 1}, 2: {0, 2}, NOISE: {1, 6}; place 2: 1: {1, 0, 1}, NOISE: {1, 2, 6}
+        CHECK.due("an earlier place parts better", x.back(0), 1);
+        Desks.say(x, 2, 1, 0);
+        CHECK.due("the same place behind the other", x.back(0), 1);
     }
 
     private static void askingTheFirstOfLikePlaces() {
@@ -163,6 +182,11 @@ public final class DoubtsTest {
         CHECK.due("take(2)", x.take(2), 2);
         CHECK.due("cost(1, 0)", x.cost(1, 0), 10);
         CHECK.due("cost(1, 1)", x.cost(1, 1), 11);
+        Desks.say(x, 1, 1, 0);
+        CHECK.due("READING 1, place 0", x.reading(1, 10), 0);
+        CHECK.due("take(1) from place 0 on", x.take(1), 2);
+        CHECK.due("cost(1, 0)", x.cost(1, 0), 9);
+        CHECK.due("cost(1, 1)", x.cost(1, 1), 12);
     }
 
     private static void takingAtTheEnds() {

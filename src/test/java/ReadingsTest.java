@@ -14,6 +14,9 @@ public final class ReadingsTest {
         tests();
         wrongNumbers();
         changes();
+        lineChanges();
+        atTheFirstPlaces();
+        behindTheLastRow();
         CHECK.end();
     }
 
@@ -205,6 +208,10 @@ public final class ReadingsTest {
         x.mean(1, 5, 0, 0, 99);
         Desks.say(x, 0, 1, 1, 1, 1, 1, 1, 1);
         CHECK.due("dear: COST", x.reading(0, 0), 698);
+        x.mean(2, 0, 0, 0, 99);
+        Desks.say(x, 1, 1, 1, 1, 1, 1, 1, 2);
+        CHECK.due("dearest: COST", x.reading(0, 0), 792);
+        CHECK.due("dearest: readings()", x.readings(), 1);
     }
 
     private static void tests() {
@@ -273,5 +280,66 @@ public final class ReadingsTest {
         CHECK.due("a TABLE told", x.readings(), 2);
         x.word(1);
         CHECK.due("two TABLES told", x.readings(), 0);
+    }
+
+    /** Each call to THE LINE, and a ROW, changes what has been answered already. */
+    private static void lineChanges() {
+        PlainAsk x = Desks.plainWords();
+        x.word(0);
+        CHECK.due("a WORD", x.readings(), 1);
+        x.number(3);
+        CHECK.due("a NUMBER behind it", x.readings(), 0);
+        x.clear();
+        x.word(0);
+        CHECK.due("the WORD alone", x.answer(0), 6);
+        CHECK.due("its answers", x.answers(0), 1);
+        x.row(0);
+        CHECK.due("a ROW more", x.answer(0), 7);
+        x.clear();
+        CHECK.due("an empty LINE", x.readings(), 0);
+        CHECK.due("its answers", x.answers(0), 0);
+    }
+
+    /** WORD 0, COLUMN 0, TABLE 0 and place 0 are like any other ones. */
+    private static void atTheFirstPlaces() {
+        PlainAsk x = new PlainAsk();
+        x.table(1);
+        x.table(1);
+        Desks.fill(x, 0, new int[][] {{4}, {5}});
+        Desks.fill(x, 1, new int[][] {{1}, {0}, {1}});
+        x.link(1, 0, 0);
+        x.mean(0, 1, 0, 0, 0);
+        x.mean(1, 4, 0, 0, 0);
+        x.mean(2, 0, 100, 0, 0);
+        x.mean(3, 0, 0, 0, 0);
+        Desks.say(x, 0, 1, Desks.num(4), 2);
+        CHECK.due("by LINK from COLUMN 0", x.answer(0), 2);
+        Desks.say(x, 0, 1, Desks.num(4), 3);
+        CHECK.due("COLUMN 0 of TABLE 0", x.answer(0), 1);
+        CHECK.due("found", x.found(0, 0), 1);
+        x.forget(0);
+        x.mean(0, 0, 0, 0, 0);
+        Desks.say(x, Desks.num(0));
+        CHECK.due("NUMBER 0 is not WORD 0", x.readings(), 0);
+    }
+
+    /** A LINK to ROW 20 of full TABLES: there is none, and none of the next TABLE. */
+    private static void behindTheLastRow() {
+        PlainAsk x = new PlainAsk();
+        for (int t = 0; t < 4; t++) {
+            x.table(4);
+            for (int r = 0; r < 20; r++) {
+                x.put(t, x.row(t), 0, r == 0 ? 20 : 7);
+            }
+            x.mean(t, 0, 100 * t, 0, 0);
+            x.mean(10 + t, 3, 100 * t, 20, 0);
+        }
+        for (int t = 0; t < 4; t++) {
+            for (int to = 0; to < 4; to++) {
+                x.link(t, 0, to);
+                Desks.say(x, t, 10 + to);
+                CHECK.due("ROW 20 of TABLE " + to + " from " + t, x.answer(0), t == to ? 1 : 0);
+            }
+        }
     }
 }
