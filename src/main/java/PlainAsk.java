@@ -386,9 +386,9 @@ public final class PlainAsk {
             return -1;
         }
 
-        /** The value to which the ROW number in a linking COLUMN leads, NOTHING without such a ROW. */
-        int cellBehind(int there, int table, int column) {
-            return there >= 0 && there < rows[table] ? cell(table, there, column) : NOTHING;
+        /** Whether a value of a linking COLUMN, which may be missing, leads to a ROW of a TABLE. */
+        boolean hasRow(int table, int there) {
+            return there >= 0 && there < rows[table];
         }
     }
 
@@ -662,7 +662,9 @@ public final class PlainAsk {
         private final Line line;
         private final Form form = new Form();
         private final int[] starts = new int[MOST_TOKENS * MOST_COST + 2];
-        private final int[] spots = new int[MOST_TOKENS];
+        /** Of the MEANINGS of one READING; -1 for a NUMBER and behind THE LINE. */
+        private final int[] spots = new int[MOST_TOKENS + 1];
+        private final int[] sortsThere = new int[MOST_TOKENS + 1];
         private int[] keys = new int[MOST_READINGS];
         private int[] spare = new int[MOST_READINGS];
         private int size;
@@ -801,11 +803,13 @@ public final class PlainAsk {
         }
 
         private void fillForm(int key) {
-            for (int place = 0; place < line.size(); place++) {
-                spots[place] = line.isNumber(place) ? -1 : words.spotOf(line.tokenAt(place), meaningIn(key, place));
+            for (int place = 0; place <= MOST_TOKENS; place++) {
+                boolean isWord = line.isWordAt(place);
+                spots[place] = isWord ? words.spotOf(line.tokenAt(place), meaningIn(key, place)) : -1;
+                sortsThere[place] = isWord ? words.sortAt(spots[place]) : -1;
             }
             form.start();
-            for (int place = 0; place < line.size(); place++) {
+            for (int place = 0; place < MOST_TOKENS; place++) {
                 if (spots[place] >= 0) {
                     tellMeaning(place, spots[place]);
                 }
@@ -816,12 +820,12 @@ public final class PlainAsk {
         private void tellMeaning(int place, int spot) {
             int a = words.aAt(spot);
             int b = words.bAt(spot);
-            switch (words.sortAt(spot)) {
+            switch (sortsThere[place]) {
                 case SORT_TABLE:
                     form.tellTable(a);
                     break;
                 case SORT_COLUMN:
-                    if (!isThanAt(place + 1)) {
+                    if (sortsThere[place + 1] != SORT_THAN) {
                         form.tellWanted(a, b);
                     }
                     break;
@@ -841,10 +845,6 @@ public final class PlainAsk {
                 default:
                     break;
             }
-        }
-
-        private boolean isThanAt(int place) {
-            return line.isWordAt(place) && words.sortAt(spots[place]) == SORT_THAN;
         }
 
         private static int originOf(int place, int spot, int columnSpot) {
@@ -943,7 +943,7 @@ public final class PlainAsk {
             for (int row = 0; ownColumn >= 0 && row < tables.rowsOf(from); row++) {
                 int v = tables.cell(from, row, ownColumn);
                 if (table != from) {
-                    v = tables.cellBehind(v, table, column);
+                    v = tables.hasRow(table, v) ? tables.cell(table, v, column) : NOTHING;
                 }
                 if (v != NOTHING && holds(v, form.thanOf(k), form.numberOf(k))) {
                     rows |= 1 << row;

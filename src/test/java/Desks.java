@@ -65,6 +65,36 @@ final class Desks {
         }
     }
 
+    /** A new LINE: its TOKENS with a blank between, a NUMBER behind a #. */
+    static void ask(PlainAsk x, String line) {
+        x.clear();
+        if (line.isEmpty()) {
+            return;
+        }
+        for (String token : line.split(" ")) {
+            if (token.startsWith("#")) {
+                x.number(Integer.parseInt(token.substring(1)));
+            } else {
+                x.word(Integer.parseInt(token));
+            }
+        }
+    }
+
+    /** A new desk with TABLES of so many COLUMNS each, without ROWS. */
+    static PlainAsk tables(int... columns) {
+        PlainAsk x = new PlainAsk();
+        for (int n : columns) {
+            x.table(n);
+        }
+        return x;
+    }
+
+    static void rows(PlainAsk x, int table, int many) {
+        for (int r = 0; r < many; r++) {
+            x.row(table);
+        }
+    }
+
     static int num(int v) {
         int token = v + 1000;
         if (token < 40) {
