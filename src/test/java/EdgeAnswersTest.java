@@ -400,8 +400,8 @@ public final class EdgeAnswersTest {
 
     /** "MOST, LEAST of the values of WANTED in them". */
     private static void mostAndLeast() {
-        int[][][] rows = {{{-999, 0}}, {{999, 0}}, {{0, 0}}, {{-5, 0}, {-7, 0}}, {{7, 0}, {5, 0}}, {{-999, 0}, {999, 0}},
-            {{5, 0}, {-1, 0}, {0, 0}}};
+        int[][][] rows = {{{-999, 0}}, {{999, 0}}, {{0, 0}}, {{-5, 0}, {-7, 0}}, {{7, 0}, {5, 0}},
+            {{-999, 0}, {999, 0}}, {{5, 0}, {-1, 0}, {0, 0}}};
         int[] most = {-999, 999, 0, -5, 7, 999, 5};
         int[] least = {-999, 999, 0, -7, 5, -999, -1};
         for (int n = 0; n < rows.length; n++) {

@@ -287,7 +287,7 @@ public final class EdgeDoubtsTest {
         }
     }
 
-    /** "at which two NEAR ones have unlike MEANINGS": what lies farther does not count, neither does what it answers. */
+    /** "at which two NEAR ones have unlike MEANINGS": what lies farther does not count, nor does what it answers. */
     private static void backOfNearOnes() {
         PlainAsk x = desk();
         x.mean(1, VALUE, 0, 1, 10);

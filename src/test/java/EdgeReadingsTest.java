@@ -210,7 +210,8 @@ public final class EdgeReadingsTest {
 
     /** "There must be a FROM": neither a TEST, nor a COLUMN with a THAN tells it. */
     private static void thereMustBeAFrom() {
-        none("3", "5", "7", "2", "1 4 #5", "7 1 4 #5", "7 3", "2 3", "2 1 4 #5", "3 3 3 3 3 3 3 3", "13", "5 5 5 5 5 5 5 5");
+        none("3", "5", "7", "2", "1 4 #5", "7 1 4 #5", "7 3", "2 3", "2 1 4 #5", "3 3 3 3 3 3 3 3", "13",
+            "5 5 5 5 5 5 5 5");
     }
 
     /** "WANTED must be of FROM", also where FROM LINKS to its TABLE. */

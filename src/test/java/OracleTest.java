@@ -10,7 +10,7 @@ import java.util.Random;
  */
 public final class OracleTest {
     private static final int RUNS = 1500;
-    private static final int CALLS = 500;
+    private static final int CALLS = 490;
     private static final int RICH_WORDS = 25;
 
     private final Check check = new Check("OracleTest");
