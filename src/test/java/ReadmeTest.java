@@ -13,7 +13,6 @@ import java.util.regex.Matcher;
 import java.util.regex.Pattern;
 import java.util.stream.Collectors;
 import java.util.stream.Stream;
-import javax.tools.ToolProvider;
 
 /** README.md against the class and its tests as they stand. Run from the project's folder. */
 public final class ReadmeTest {
@@ -24,7 +23,7 @@ public final class ReadmeTest {
     private static final Pattern CALL = Pattern.compile("(?m)^\\| `(\\w+)\\(([^)]*)\\)` \\|");
     private static final Pattern TEST = Pattern.compile("(?m)^\\| (\\w+Test) \\|");
 
-    public static void main(String[] args) throws IOException, ReflectiveOperationException {
+    public static void main(String[] args) throws Exception {
         String readme = Files.readString(Path.of("README.md"));
         example(readme);
         calls(readme);
@@ -38,15 +37,15 @@ public final class ReadmeTest {
         CHECK.due(call, got, want);
     }
 
-    private static void example(String readme) throws IOException, ReflectiveOperationException {
+    private static void example(String readme) throws Exception {
         Matcher block = EXAMPLE.matcher(readme);
         CHECK.holds("there is an example", block.find());
         Path folder = Files.createTempDirectory("readme");
         Path file = folder.resolve("ReadmeExample.java");
         Files.writeString(file, "public class ReadmeExample {\n public static void main(String[] args) {\n"
             + block.group(1).lines().map(ReadmeTest::withCheck).collect(Collectors.joining("\n")) + "\n }\n}\n");
-        int exit = ToolProvider.getSystemJavaCompiler().run(null, null, null,
-            "-cp", System.getProperty("java.class.path"), "-d", folder.toString(), file.toString());
+        int exit = new ProcessBuilder("javac", "-cp", System.getProperty("java.class.path"), "-d", folder.toString(),
+            file.toString()).inheritIO().start().waitFor();
         CHECK.due("javac of the example", exit, 0);
         if (exit == 0) {
             try (URLClassLoader loader = new URLClassLoader(new URL[] {folder.toUri().toURL()})) {
